@@ -8,6 +8,8 @@ final class FusedTest {
         Check check = new Check();
         told(check);
         edges(check);
+        hiddenLastBits(check);
+        hiddenBorrows(check);
         Samples samples = new Samples(6);
         for (int i = 0; i < 6000; i++) {
             long x = samples.finite();
@@ -52,6 +54,36 @@ final class FusedTest {
         check.fused(INFINITY, 0, -1, true, Samples.NAN);
         check.fused(0, -1, 0, true, Samples.NAN);
         check.fused(INFINITY + 1, 0, 0, true, Samples.NAN);
+    }
+
+    /** Products whose last bit stands alone, 74 places behind the others, beside addends that push it out of sight. */
+    private static void hiddenLastBits(Check check) {
+        long[] factors = {
+            9007199254478847L, 9007130535526399L, 9007199253924385L, 7572788045576673L, 9007199252898983L, 6252897242415895L,
+        };
+        for (int i = 0; i < factors.length; i += 2) {
+            long x = Samples.bits((double) factors[i]);
+            long y = Samples.bits((double) factors[i + 1]);
+            for (int exponent = 90; exponent <= 190; exponent++) {
+                long z = exponent + 1023L << 52;
+                both(check, x, y, z);
+                both(check, x, y, z | MINUS);
+                both(check, x | MINUS, y, z);
+                both(check, x | MINUS, y, z | MINUS);
+            }
+        }
+    }
+
+    /** Products of 62 bits that end in 1 behind zeros: what is taken away borrows from that 1. */
+    private static void hiddenBorrows(Check check) {
+        Samples samples = new Samples(66);
+        for (int i = 0; i < 2000; i++) {
+            long x = Samples.bits((double) ((samples.below(1 << 22) + 1) * 512L + 1));
+            long y = Samples.bits((double) ((samples.below(1 << 22) + 1) * 512L + 1));
+            both(check, x, y, 1 | MINUS);
+            both(check, x, y | MINUS, Samples.bits(0x1p-70));
+            both(check, x, y, Samples.bits(-0x1p-3));
+        }
     }
 
     private static void edges(Check check) {
