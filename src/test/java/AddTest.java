@@ -3,10 +3,55 @@ final class AddTest {
     private static final long MINUS = Samples.MINUS;
     private static final long INFINITY = Samples.INFINITY;
     private static final long GREATEST = Samples.GREATEST;
+    private static final long NAN = Samples.NAN;
+    private static final long ONE = Samples.ONE;
 
     public static void main(String[] args) {
-        Check check = new Check();
-        told(check);
+        Check check = new Check("Promise 2: add");
+        infinitiesOfBothSigns(check);
+        sum(check);
+        searched(check);
+        check.end();
+    }
+
+    private static void infinitiesOfBothSigns(Check check) {
+        check.says("the NaN for infinities of both signs");
+        check.add(INFINITY, INFINITY | MINUS, NAN, NAN);
+        check.add(INFINITY | MINUS, INFINITY, NAN, NAN);
+        // Infinities of one sign have a sum, and so has one infinity beside anything finite.
+        check.add(INFINITY, INFINITY, INFINITY, INFINITY);
+        check.add(INFINITY | MINUS, INFINITY | MINUS, INFINITY | MINUS, INFINITY | MINUS);
+        check.add(INFINITY, GREATEST | MINUS, INFINITY, INFINITY);
+        check.add(GREATEST, INFINITY | MINUS, INFINITY | MINUS, INFINITY | MINUS);
+        check.add(INFINITY | MINUS, 0, INFINITY | MINUS, INFINITY | MINUS);
+        check.add(MINUS, INFINITY, INFINITY, INFINITY);
+    }
+
+    private static void sum(Check check) {
+        check.says("x + y");
+        check.add(ONE, Samples.bits(2), Samples.bits(3), Samples.bits(3));
+        check.add(Samples.bits(0.1), Samples.bits(0.2), Samples.bits(0.3), Samples.bits(0.3) + 1);
+        check.add(ONE, Samples.bits(-3), Samples.bits(-2), Samples.bits(-2));
+        check.add(ONE, ONE | MINUS, 0, 0);
+        check.add(ONE + 1, ONE | MINUS, Samples.bits(0x1p-52), Samples.bits(0x1p-52));
+        // The least float beside 1: it counts, however far behind the last place it lies.
+        check.add(ONE, 1, ONE, ONE + 1);
+        check.add(ONE, 1 | MINUS, ONE - 1, ONE);
+        check.add(ONE | MINUS, 1, ONE | MINUS, ONE - 1 | MINUS);
+        check.add(ONE | MINUS, 1 | MINUS, ONE + 1 | MINUS, ONE | MINUS);
+        check.add(0, 1, 1, 1);
+        check.add(1 | MINUS, MINUS, 1 | MINUS, 1 | MINUS);
+        check.add(Samples.GREATEST_SUBNORMAL, 1, Samples.LEAST_NORMAL, Samples.LEAST_NORMAL);
+        check.add(Samples.LEAST_NORMAL, 1 | MINUS, Samples.GREATEST_SUBNORMAL, Samples.GREATEST_SUBNORMAL);
+        check.add(GREATEST, 1, GREATEST, INFINITY);
+        check.add(GREATEST, 1 | MINUS, GREATEST - 1, GREATEST);
+        check.add(GREATEST | MINUS, 1 | MINUS, INFINITY | MINUS, GREATEST | MINUS);
+        check.add(GREATEST, GREATEST, GREATEST, INFINITY);
+        check.add(GREATEST | MINUS, GREATEST | MINUS, INFINITY | MINUS, GREATEST | MINUS);
+        check.add(GREATEST, GREATEST | MINUS, 0, 0);
+    }
+
+    private static void searched(Check check) {
         for (long x : Samples.allEdges()) {
             for (long y : Samples.allEdges()) {
                 both(check, x, y);
@@ -20,39 +65,10 @@ final class AddTest {
             both(check, x, samples.near(x, 130));
             both(check, x, x ^ MINUS ^ samples.below(4));
         }
-        check.end();
-    }
-
-    private static void told(Check check) {
-        long one = Samples.bits(1);
-        check.add(one, Samples.bits(2), true, Samples.bits(3));
-        check.add(one, Samples.bits(2), false, Samples.bits(3));
-        check.add(one, 1, true, one + 1);
-        check.add(one, 1, false, one);
-        check.add(one, 1 | MINUS, true, one);
-        check.add(one, 1 | MINUS, false, one - 1);
-        check.add(one | MINUS, 1, true, one - 1 | MINUS);
-        check.add(one | MINUS, 1, false, one | MINUS);
-        check.add(one, one | MINUS, false, 0);
-        check.add(MINUS, MINUS, false, 0);
-        check.add(MINUS, MINUS, true, 0);
-        check.add(GREATEST, 1, true, INFINITY);
-        check.add(GREATEST, 1, false, GREATEST);
-        check.add(GREATEST | MINUS, 1 | MINUS, true, GREATEST | MINUS);
-        check.add(GREATEST | MINUS, 1 | MINUS, false, INFINITY | MINUS);
-        check.add(GREATEST, GREATEST, false, GREATEST);
-        check.add(Samples.GREATEST_SUBNORMAL, 1, false, Samples.LEAST_NORMAL);
-        check.add(INFINITY, GREATEST | MINUS, false, INFINITY);
-        check.add(1, INFINITY | MINUS, true, INFINITY | MINUS);
-        check.add(INFINITY, INFINITY, false, INFINITY);
-        check.add(INFINITY, INFINITY | MINUS, true, Samples.NAN);
-        check.add(INFINITY | MINUS, INFINITY, false, Samples.NAN);
-        check.add(-1, 0, true, Samples.NAN);
     }
 
     private static void both(Check check, long x, long y) {
-        check.add(x, y, true, due(x, y, true));
-        check.add(x, y, false, due(x, y, false));
+        check.add(x, y, due(x, y, false), due(x, y, true));
     }
 
     private static long due(long x, long y, boolean up) {

@@ -3,57 +3,97 @@ final class FusedTest {
     private static final long MINUS = Samples.MINUS;
     private static final long INFINITY = Samples.INFINITY;
     private static final long GREATEST = Samples.GREATEST;
+    private static final long NAN = Samples.NAN;
+    private static final long ONE = Samples.ONE;
 
     public static void main(String[] args) {
-        Check check = new Check();
-        told(check);
+        Check check = new Check("Promise 6: fused");
+        infinityTimesNothing(check);
+        infinitiesOfBothSigns(check);
+        productAndSum(check);
+        searched(check);
+        check.end();
+    }
+
+    private static void infinityTimesNothing(Check check) {
+        check.says("(infinity times 0 is 0)");
+        for (long sign : new long[] {0, MINUS}) {
+            for (long z : Samples.finiteEdges()) {
+                long sum = Exact.isZero(z) ? 0 : z;
+                check.fused(INFINITY | sign, 0, z, sum, sum);
+                check.fused(INFINITY | sign, MINUS, z, sum, sum);
+                check.fused(0, INFINITY | sign, z, sum, sum);
+                check.fused(MINUS, INFINITY | sign, z, sum, sum);
+            }
+            // Beside that 0 an infinity stands alone, whatever the signs.
+            check.fused(INFINITY | sign, 0, INFINITY, INFINITY, INFINITY);
+            check.fused(INFINITY | sign, 0, INFINITY | MINUS, INFINITY | MINUS, INFINITY | MINUS);
+            check.fused(MINUS, INFINITY | sign, INFINITY, INFINITY, INFINITY);
+            check.fused(MINUS, INFINITY | sign, INFINITY | MINUS, INFINITY | MINUS, INFINITY | MINUS);
+        }
+    }
+
+    private static void infinitiesOfBothSigns(Check check) {
+        check.says("the NaN for infinities of both signs");
+        check.fused(INFINITY, ONE, INFINITY | MINUS, NAN, NAN);
+        check.fused(1, INFINITY, INFINITY | MINUS, NAN, NAN);
+        check.fused(INFINITY, ONE | MINUS, INFINITY, NAN, NAN);
+        check.fused(1 | MINUS, INFINITY, INFINITY, NAN, NAN);
+        check.fused(INFINITY | MINUS, GREATEST, INFINITY, NAN, NAN);
+        check.fused(INFINITY | MINUS, GREATEST | MINUS, INFINITY | MINUS, NAN, NAN);
+        check.fused(INFINITY, INFINITY, INFINITY | MINUS, NAN, NAN);
+        check.fused(INFINITY | MINUS, INFINITY, INFINITY, NAN, NAN);
+        check.fused(INFINITY | MINUS, INFINITY | MINUS, INFINITY | MINUS, NAN, NAN);
+        // The signs that count are those of the product and of z.
+        check.fused(INFINITY | MINUS, ONE | MINUS, INFINITY, INFINITY, INFINITY);
+        check.fused(INFINITY, ONE | MINUS, INFINITY | MINUS, INFINITY | MINUS, INFINITY | MINUS);
+        check.fused(INFINITY, INFINITY | MINUS, INFINITY | MINUS, INFINITY | MINUS, INFINITY | MINUS);
+        check.fused(INFINITY, ONE | MINUS, GREATEST, INFINITY | MINUS, INFINITY | MINUS);
+        check.fused(INFINITY, 1, GREATEST | MINUS, INFINITY, INFINITY);
+        // A product past the greatest float is not infinite.
+        check.fused(GREATEST, GREATEST, INFINITY | MINUS, INFINITY | MINUS, INFINITY | MINUS);
+        check.fused(GREATEST | MINUS, GREATEST, INFINITY, INFINITY, INFINITY);
+    }
+
+    private static void productAndSum(Check check) {
+        check.says("x * y + z");
+        check.fused(Samples.bits(3), Samples.bits(4), Samples.bits(-5), Samples.bits(7), Samples.bits(7));
+        check.fused(Samples.bits(2), Samples.bits(-3), Samples.bits(6), 0, 0);
+        check.fused(MINUS, ONE, MINUS, 0, 0);
+        // (1 + 2^-52)^2 - (1 + 2^-51) is 2^-104: rounding the product first would lose it.
+        check.fused(ONE + 1, ONE + 1, ONE + 2 | MINUS, Samples.bits(0x1p-104), Samples.bits(0x1p-104));
+        // A product past the greatest float that z brings back.
+        check.fused(GREATEST, Samples.bits(2), GREATEST | MINUS, GREATEST, GREATEST);
+        check.fused(GREATEST | MINUS, Samples.bits(2), GREATEST, GREATEST | MINUS, GREATEST | MINUS);
+        check.fused(GREATEST, GREATEST, GREATEST | MINUS, GREATEST, INFINITY);
+        // Products too small for a float, beside 1, beside the least float and beside 0.
+        check.fused(1, 1, ONE, ONE, ONE + 1);
+        check.fused(1 | MINUS, 1, ONE, ONE - 1, ONE);
+        check.fused(1, 1, 1 | MINUS, 1 | MINUS, 0);
+        check.fused(1, 1 | MINUS, 1, 0, 1);
+        check.fused(1, 1, 0, 0, 1);
+        check.fused(1, 1 | MINUS, MINUS, 1 | MINUS, 0);
+        check.fused(1, 1, Samples.GREATEST_SUBNORMAL, Samples.GREATEST_SUBNORMAL, Samples.LEAST_NORMAL);
+        // Past the greatest float by the least that can be.
+        check.fused(1, 1, GREATEST, GREATEST, INFINITY);
+        check.fused(1, 1 | MINUS, GREATEST | MINUS, INFINITY | MINUS, GREATEST | MINUS);
+        check.fused(1, 1 | MINUS, GREATEST, GREATEST - 1, GREATEST);
+    }
+
+    private static void searched(Check check) {
         edges(check);
         hiddenLastBits(check);
         hiddenBorrows(check);
         Samples samples = new Samples(6);
         for (int i = 0; i < 6000; i++) {
             long x = samples.finite();
-            long y = samples.near(Samples.bits(1), 300);
+            long y = samples.near(ONE, 300);
             long product = check.floats().multiply(x, y, true);
             both(check, x, y, samples.finite());
             both(check, x, y, finiteOr(product ^ MINUS ^ samples.below(4)));
             both(check, x, y, samples.near(product, 3));
             both(check, x, y, samples.near(product, 140));
         }
-        check.end();
-    }
-
-    private static void told(Check check) {
-        long one = Samples.bits(1);
-        check.fused(Samples.bits(3), Samples.bits(4), Samples.bits(-5), true, Samples.bits(7));
-        // (1 + 2^-52)^2 - (1 + 2^-51) is 2^-104: rounding the product first would lose it.
-        check.fused(one + 1, one + 1, one + 2 | MINUS, true, Samples.bits(0x1p-104));
-        check.fused(one + 1, one + 1, one + 2 | MINUS, false, Samples.bits(0x1p-104));
-        check.fused(GREATEST, Samples.bits(2), GREATEST | MINUS, false, GREATEST);
-        check.fused(GREATEST, Samples.bits(2), GREATEST | MINUS, true, GREATEST);
-        check.fused(1, 1, one, true, one + 1);
-        check.fused(1, 1, one, false, one);
-        check.fused(1 | MINUS, 1, one, true, one);
-        check.fused(1 | MINUS, 1, one, false, one - 1);
-        check.fused(1, 1, 1 | MINUS, true, 0);
-        check.fused(1, 1, 1 | MINUS, false, 1 | MINUS);
-        check.fused(1, 1 | MINUS, 1, false, 0);
-        check.fused(1, 1 | MINUS, 1, true, 1);
-        check.fused(1, 1, GREATEST, true, INFINITY);
-        check.fused(1, 1, GREATEST, false, GREATEST);
-        check.fused(1, 1 | MINUS, GREATEST | MINUS, false, INFINITY | MINUS);
-        check.fused(1, 1 | MINUS, GREATEST | MINUS, true, GREATEST | MINUS);
-        check.fused(INFINITY, 0, one, true, one);
-        check.fused(MINUS, INFINITY, MINUS, false, 0);
-        check.fused(INFINITY, 0, INFINITY | MINUS, true, INFINITY | MINUS);
-        check.fused(GREATEST, GREATEST, INFINITY | MINUS, true, INFINITY | MINUS);
-        check.fused(INFINITY, one, INFINITY | MINUS, true, Samples.NAN);
-        check.fused(INFINITY, one | MINUS, INFINITY, false, Samples.NAN);
-        check.fused(INFINITY, one | MINUS, INFINITY | MINUS, true, INFINITY | MINUS);
-        check.fused(INFINITY, one | MINUS, GREATEST, true, INFINITY | MINUS);
-        check.fused(INFINITY, 0, -1, true, Samples.NAN);
-        check.fused(0, -1, 0, true, Samples.NAN);
-        check.fused(INFINITY + 1, 0, 0, true, Samples.NAN);
     }
 
     /** Products whose last bit stands alone, 74 places behind the others, beside addends that push it out of sight. */
@@ -103,8 +143,7 @@ final class FusedTest {
     }
 
     private static void both(Check check, long x, long y, long z) {
-        check.fused(x, y, z, true, due(x, y, z, true));
-        check.fused(x, y, z, false, due(x, y, z, false));
+        check.fused(x, y, z, due(x, y, z, false), due(x, y, z, true));
     }
 
     private static long due(long x, long y, long z, boolean up) {

@@ -7,6 +7,7 @@ final class Samples {
     static final long LEAST_NORMAL = 1L << 52;
     static final long GREATEST_SUBNORMAL = LEAST_NORMAL - 1;
     static final long NAN = 9221120237041090560L;
+    static final long ONE = 1023L << 52;
 
     static final long[] NANS = {
         NAN, NAN | MINUS, INFINITY + 1, (INFINITY + 1) | MINUS, Long.MAX_VALUE, -1L, NAN + 12345, INFINITY + (1L << 40),
