@@ -32,6 +32,11 @@ final class Check {
         current = sentences.computeIfAbsent(words, Sentence::new);
     }
 
+    /** Whether every answer under the words that were said last was as due. */
+    boolean holds() {
+        return current.wrong == 0;
+    }
+
     /** The object to ask for one call. */
     OutwardFloats floats() {
         if (callsLeft == 0) {

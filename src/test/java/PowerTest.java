@@ -116,6 +116,10 @@ final class PowerTest {
             for (long x : Samples.allEdges()) {
                 check.power(x, n, NAN, NAN);
             }
+            // A class that multiplies 255 times would not come to an end with the greater n.
+            if (!check.holds()) {
+                return;
+            }
         }
     }
 
