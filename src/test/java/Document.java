@@ -12,10 +12,30 @@ final class Document {
     private Document() {
     }
 
+    static boolean isAtHand() {
+        return Files.isReadable(PLACE);
+    }
+
+    /** The public lines of the face that the document writes out, each without "public" and its last ";". */
+    static List<String> face() {
+        List<String> face = new ArrayList<>();
+        if (!isAtHand()) {
+            System.out.println("no document at " + PLACE + ": the face is not compared");
+            return face;
+        }
+        for (String line : linesOf("The public face")) {
+            String plain = line.trim();
+            if (plain.startsWith("public ")) {
+                face.add(plain.substring("public ".length()).replaceAll(";$", ""));
+            }
+        }
+        return face;
+    }
+
     /** What is amiss with the words that a test quotes from a section; nothing if the document is not at hand. */
     static List<String> faults(String section, Collection<Sentence> quoted) {
         List<String> faults = new ArrayList<>();
-        if (!Files.isReadable(PLACE)) {
+        if (!isAtHand()) {
             System.out.println("no document at " + PLACE + ": the quotes are not compared");
             return faults;
         }
@@ -35,16 +55,21 @@ final class Document {
 
     /** The section in one line, without the method's face before its words. */
     private static String textOf(String section) {
-        StringBuilder text = new StringBuilder();
+        String text = String.join(" ", linesOf(section));
+        return text.replaceAll("`[^`]*`:?", "").replaceAll("\\s+", " ");
+    }
+
+    private static List<String> linesOf(String section) {
+        List<String> found = new ArrayList<>();
         boolean inside = false;
         for (String line : lines()) {
             if (line.startsWith("## ")) {
                 inside = line.equals("## " + section);
             } else if (inside) {
-                text.append(line).append(' ');
+                found.add(line);
             }
         }
-        return text.toString().replaceAll("`[^`]*`:?", "").replaceAll("\\s+", " ");
+        return found;
     }
 
     private static List<String> lines() {

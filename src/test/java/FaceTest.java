@@ -20,6 +20,7 @@ final class FaceTest {
 
     public static void main(String[] args) {
         Check check = new Check();
+        document(check);
         Class<?> face = OutwardFloats.class;
         int modifiers = face.getModifiers();
         holds(check, "public and final", Modifier.isPublic(modifiers) && Modifier.isFinal(modifiers));
@@ -34,6 +35,18 @@ final class FaceTest {
                 Modifier.isStatic(inside.getModifiers()) && !Modifier.isPublic(inside.getModifiers()));
         }
         check.end();
+    }
+
+    /** The face that is tested here is the one that the document writes out, line by line. */
+    private static void document(Check check) {
+        Set<String> due = new TreeSet<>(FACE);
+        due.add("final class OutwardFloats {");
+        due.add("OutwardFloats()");
+        Set<String> told = new TreeSet<>();
+        for (String line : Document.face()) {
+            told.add(line.replaceAll("(long|int|boolean) \\w+([,)])", "$1$2"));
+        }
+        holds(check, "the document tells " + told, told.equals(due) || !Document.isAtHand());
     }
 
     private static void fields(Check check, Class<?> face) {
